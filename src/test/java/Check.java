@@ -1,0 +1,91 @@
+/** Counts the answers that are not the ones due, and ends the run of a test. */
+final class Check {
+    static final Class<IndexOutOfBoundsException> INDEX = IndexOutOfBoundsException.class;
+    static final Class<IllegalArgumentException> ARGUMENT = IllegalArgumentException.class;
+    static final Class<IllegalStateException> STATE = IllegalStateException.class;
+
+    private int asked = 0;
+    private int wrong = 0;
+
+    void same(String what, long got, long due) {
+        asked++;
+        if (got != due) {
+            wrong++;
+            System.out.println(what + " answered " + got + ", due is " + due);
+        }
+    }
+
+    void same(String what, boolean got, boolean due) {
+        same(what, got ? 1 : 0, due ? 1 : 0);
+    }
+
+    /** The call throws just that exception, no subclass of it. */
+    void refused(String what, Class<? extends RuntimeException> due, Runnable call) {
+        asked++;
+        Class<?> got = null;
+        try {
+            call.run();
+        } catch (RuntimeException e) {
+            got = e.getClass();
+        }
+        if (got != due) {
+            wrong++;
+            System.out.println(what + " threw " + got + ", due is " + due);
+        }
+    }
+
+    /** All that can be asked of a line but its source: stands, spent, bound, free, took, covered. */
+    void line(Amendgrant x, int line, int... due) {
+        for (int what = 0; what < due.length; what++) {
+            same("ofLine(" + line + ", " + what + ")", x.ofLine(line, what), due[what]);
+        }
+        same("standsAnew(" + line + ")", x.standsAnew(line), due[0]);
+    }
+
+    /** State, sum and what was paid. */
+    void grant(Amendgrant x, int grant, int... due) {
+        for (int what = 0; what < due.length; what++) {
+            same("ofGrant(" + grant + ", " + what + ")", x.ofGrant(grant, what), due[what]);
+        }
+    }
+
+    void end() {
+        System.out.println(asked + " answers, " + wrong + " wrong");
+        if (wrong != 0) {
+            System.exit(1);
+        }
+    }
+
+    /** A budget with one line of source 0, and income enough. */
+    static Amendgrant withLine(int amount) {
+        Amendgrant x = new Amendgrant();
+        x.line(0, amount);
+        x.income(0, 100000);
+        return x;
+    }
+
+    static void votes(Amendgrant x, int amendment, int votesFor, int votesAgainst) {
+        for (int i = 0; i < votesFor; i++) {
+            x.vote(i, amendment, true);
+        }
+        for (int i = 0; i < votesAgainst; i++) {
+            x.vote(8 - i, amendment, false);
+        }
+    }
+
+    static int pass(Amendgrant x, int amendment) {
+        votes(x, amendment, 5, 0);
+        return x.decide(amendment);
+    }
+
+    static int fell(Amendgrant x, int amendment) {
+        votes(x, amendment, 0, 5);
+        return x.decide(amendment);
+    }
+
+    static int passed(Amendgrant x, int line, int more) {
+        int amendment = x.amend(line, more);
+        pass(x, amendment);
+        return amendment;
+    }
+}

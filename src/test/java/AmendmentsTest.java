@@ -195,9 +195,11 @@ public final class AmendmentsTest {
         check.line(x, 0, 699, 0, 400, 299, 0, 0);
         check.same("the reserve covers none", x.reserve(), 0);
         check.same("a cut one is not owed", x.owes(0), 0);
+        Check.passed(x, 0, -300);
+        check.line(x, 0, 400, 0, 400, 0, 0, 1);
         Check.passed(x, 0, -50000);
-        check.line(x, 0, 400, 0, 400, 0, 0, 49701);
-        check.same("it is below 0", x.reserve(), -49701);
+        check.line(x, 0, 400, 0, 400, 0, 0, 50001);
+        check.same("it is below 0", x.reserve(), -50001);
     }
 
     private static void promise8Strike() {

@@ -84,7 +84,7 @@ public final class ModelTest {
                 default: return allVote(x, a);
             }
         } catch (IndexOutOfBoundsException e) {
-            return Model.INDEX;
+            return Check.isThrownByTheClass(e) ? Model.INDEX : Long.MIN_VALUE;
         } catch (IllegalArgumentException e) {
             return Model.ARGUMENT;
         } catch (IllegalStateException e) {

@@ -1,3 +1,5 @@
+import java.util.function.IntConsumer;
+
 /** Counts the answers that are not the ones due, and ends the run of a test. */
 final class Check {
     static final Class<IndexOutOfBoundsException> INDEX = IndexOutOfBoundsException.class;
@@ -31,6 +33,14 @@ final class Check {
         if (got != due) {
             wrong++;
             System.out.println(what + " threw " + got + ", due is " + due);
+        }
+    }
+
+    /** What lies next to both ends of a range, and the farthest numbers, are refused. */
+    void outside(String what, Class<? extends RuntimeException> due, int least, int most, IntConsumer call) {
+        int[] values = {least - 1, most + 1, Integer.MIN_VALUE, Integer.MAX_VALUE};
+        for (int value : values) {
+            refused(what + " " + value, due, () -> call.accept(value));
         }
     }
 

@@ -10,6 +10,7 @@ public final class TermsTest {
         promise19WhatItBringsIsItsNumberIfNoneIsOnIt();
         promise19WhatItBringsHasPassedOnesOnItAlone();
         promise19WhatItBringsReachesThroughEveryDepth();
+        promise19WhatItBringsHasNoFallenOnes();
         promise19WhatItBringsCanBeNothingOrTurnItsSign();
         promise6EachMemberHasOneVote();
         promise6EachMemberCanChangeItsVote();
@@ -29,6 +30,7 @@ public final class TermsTest {
         promise17WhatStandsCanBeNothing();
         promise21AWithdrawnGrantIsOwedAsFarAsPaid();
         promise21AWithdrawnGrantOfWhichNothingWasPaid();
+        promise21DebtsAddUp();
         promise20ACutGrantHasTheSumThatWasPaid();
         promise17BoundIsSpentAndGrants();
         promise8FallenOnesWithdrawGrantsThatHangOnThem();
@@ -159,6 +161,19 @@ public final class TermsTest {
         check.line(x, 0, 117);
         x.strike(3);
         check.line(x, 0, 113);
+    }
+
+    private static void promise19WhatItBringsHasNoFallenOnes() {
+        Amendgrant x = withAmendment(100, 10);
+        x.amendOn(0, 1);
+        x.amendOn(1, 2);
+        Check.pass(x, 2);
+        Check.pass(x, 1);
+        Check.pass(x, 0);
+        x.strike(0);
+        check.same("all on it are FALLEN", x.ofAmendment(0, 1), 10);
+        check.same("all on it are FALLEN", x.ofAmendment(1, 1), 1);
+        check.same("none is on it", x.ofAmendment(2, 1), 2);
     }
 
     private static void promise19WhatItBringsCanBeNothingOrTurnItsSign() {
@@ -416,6 +431,23 @@ public final class TermsTest {
         check.grant(x, 0, Amendgrant.WITHDRAWN, 60, 0);
         check.same("owes", x.owes(3), 0);
         check.line(x, 0, 100, 0, 0, 100, 0, 0);
+    }
+
+    private static void promise21DebtsAddUp() {
+        Amendgrant x = withAmendment(100, 50);
+        Check.pass(x, 0);
+        x.grant(0, 3, 30, NONE, 9);
+        x.grant(0, 3, 30, 0, 9);
+        x.grant(0, 3, 30, 0, 9);
+        x.grant(0, 4, 30, 0, 9);
+        for (int grant = 0; grant < 4; grant++) {
+            x.pay(grant, 1 << grant);
+        }
+        x.audit(0, 1);
+        check.same("for the audit", x.owes(3), 1);
+        x.strike(0);
+        check.same("for the audit, and two WITHDRAWN ones", x.owes(3), 7);
+        check.same("another for its own", x.owes(4), 8);
     }
 
     private static void promise20ACutGrantHasTheSumThatWasPaid() {

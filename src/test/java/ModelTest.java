@@ -3,8 +3,12 @@
  * done. The runs come from a counter's own arithmetic, so that they are always the same.
  */
 public final class ModelTest {
-    private static final int RUNS = 4000;
-    private static final int CALLS = 160;
+    private static final int RUNS = 20000;
+    private static final int CHANGES = 160;
+    // What an object answers behind these is free.
+    private static final int CALLS = 512;
+    private static final int VOTES_AT_ONCE = 9;
+    private static final int QUESTIONS = 2;
     private static final Check check = new Check();
     private static final int[] outcomes = new int[4];
 
@@ -24,17 +28,47 @@ public final class ModelTest {
         Amendgrant x = new Amendgrant();
         Model model = new Model();
         Dice dice = new Dice(run);
-        for (int call = 0; call < CALLS; call++) {
-            int kind = call < 6 ? call % 2 : KINDS[dice.below(KINDS.length)];
+        boolean same = true;
+        int left = CALLS;
+        for (int change = 0; same && change < CHANGES && left >= VOTES_AT_ONCE + QUESTIONS; change++) {
+            int kind = change < 6 ? change % 2 : KINDS[dice.below(KINDS.length)];
             int[] a = arguments(kind, dice, model);
-            String name = "run " + run + ", call " + call + ", kind " + kind + java.util.Arrays.toString(a);
-            long due = model.call(kind, a);
-            check.same(name, real(x, kind, a), due);
-            if (!compare(name, x, model)) {
-                return;
+            String name = "run " + run + ", change " + change + ", kind " + kind + java.util.Arrays.toString(a);
+            same = isSame(name, real(x, kind, a), model.call(kind, a));
+            left -= kind == 15 ? VOTES_AT_ONCE : 1;
+            for (int question = 0; same && question < QUESTIONS; question++, left--) {
+                same = ask(name, x, model, dice);
             }
         }
-        countOutcomes(x, model);
+        for (; same && left > 0; left--) {
+            same = ask("run " + run + ", in the end", x, model, dice);
+        }
+        countOutcomes(model);
+    }
+
+    private static boolean isSame(String name, long got, long due) {
+        check.same(name, got, due);
+        return got == due;
+    }
+
+    /** Asks one thing of one line, amendment, grant, source or receiver, or the reserve. */
+    private static boolean ask(String name, Amendgrant x, Model model, Dice dice) {
+        int line = dice.below(model.lines), amendment = dice.below(model.amendments), grant = dice.below(model.grants);
+        int receiver = dice.below(8), source = dice.below(4), what = dice.below(8);
+        switch (dice.below(8)) {
+            case 0: return isSame(name + ": reserve", x.reserve(), model.reserve);
+            case 1: return isSame(name + ": owes " + receiver, x.owes(receiver), model.debt[receiver]);
+            case 2: return what > 2 || isSame(name + ": ofSource " + source + " " + what,
+                x.ofSource(source, what), model.ofSource(source, what));
+            case 3: return model.lines == 0 || isSame(name + ": standsAnew " + line,
+                x.standsAnew(line), model.stands(line));
+            case 4: case 5: return model.lines == 0 || what > 6 || isSame(name + ": ofLine " + line + " " + what,
+                x.ofLine(line, what), model.ofLine(line, what));
+            case 6: return model.amendments == 0 || isSame(name + ": ofAmendment " + amendment + " " + what,
+                x.ofAmendment(amendment, what), model.ofAmendment(amendment, what));
+            default: return model.grants == 0 || isSame(name + ": ofGrant " + grant + " " + what,
+                x.ofGrant(grant, what), model.grant[grant][what]);
+        }
     }
 
     private static final int[] KINDS = {0, 1, 2, 3, 3, 4, 4, 4, 5, 5, 5, 5, 6, 7, 7, 7, 8, 8, 8, 9, 10, 11, 12, 13, 14,
@@ -100,42 +134,14 @@ public final class ModelTest {
         return answer;
     }
 
-    private static boolean compare(String name, Amendgrant x, Model model) {
-        boolean same = x.reserve() == model.reserve;
-        for (int receiver = 0; receiver < 8; receiver++) {
-            same &= x.owes(receiver) == model.debt[receiver];
-        }
-        for (int line = 0; line < model.lines; line++) {
-            same &= x.standsAnew(line) == model.stands(line);
-            for (int what = 0; what < 7; what++) {
-                same &= x.ofLine(line, what) == model.ofLine(line, what);
-            }
-        }
-        for (int source = 0; source < 4; source++) {
-            for (int what = 0; what < 3; what++) {
-                same &= x.ofSource(source, what) == model.ofSource(source, what);
-            }
-        }
-        for (int what = 0; what < 8; what++) {
-            for (int i = 0; i < model.amendments; i++) {
-                same &= x.ofAmendment(i, what) == model.ofAmendment(i, what);
-            }
-            for (int i = 0; i < model.grants; i++) {
-                same &= x.ofGrant(i, what) == model.grant[i][what];
-            }
-        }
-        check.same(name + ": what is asked is as in the model", same, true);
-        return same;
-    }
-
-    private static void countOutcomes(Amendgrant x, Model model) {
+    private static void countOutcomes(Model model) {
         for (int i = 0; i < model.grants; i++) {
-            outcomes[0] += x.ofGrant(i, 0) == Amendgrant.CUT ? 1 : 0;
-            outcomes[1] += x.ofGrant(i, 0) == Amendgrant.WITHDRAWN ? 1 : 0;
+            outcomes[0] += model.grant[i][0] == Amendgrant.CUT ? 1 : 0;
+            outcomes[1] += model.grant[i][0] == Amendgrant.WITHDRAWN ? 1 : 0;
         }
         for (int line = 0; line < model.lines; line++) {
-            outcomes[2] += x.ofLine(line, 5) > 0 ? 1 : 0;
-            outcomes[3] += x.ofLine(line, 4) > 0 ? 1 : 0;
+            outcomes[2] += model.ofLine(line, 5) > 0 ? 1 : 0;
+            outcomes[3] += model.ofLine(line, 4) > 0 ? 1 : 0;
         }
     }
 
